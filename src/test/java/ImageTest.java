@@ -1,0 +1,189 @@
+/** Promises 34 to 36: THE IMAGE, undo, count. */
+public final class ImageTest {
+    private static HotSprings x;
+
+    private static void due(String call, long got, long want) {
+        Due.due(call, got, want);
+    }
+
+    private static void fill() {
+        x.under(0, 0, 800);
+        x.under(0, 1, 1000);
+        x.under(0, 2, 20);
+        x.under(0, 3, 100);
+        x.tap(0, 0, 0, 0);
+        x.tap(1, 2, 30, 1);
+        x.pipe(0, 7);
+        x.shut(1, true);
+        x.taker(1, 0, 2, 100, 0);
+        x.taker(2, 0, 1, 100, 0);
+        x.dawn(4);
+        Due.order(x, "rank 5 k=2;deep 9", 0, 0);
+        x.sell(0, 0, 3, 2);
+        x.used(0, 3);
+        x.look(0, 1, 0, 0);
+        x.drop(0, 15);
+        x.push(0, 6);
+        x.shake(1, 6);
+        Due.tape(x, "deep 1");
+    }
+
+    /** Answers that tell all that there is, each mixed into one number. */
+    private static long told() {
+        long sum = 0;
+        for (int i = 0; i <= 9; i++) {
+            sum = sum * 31 + x.count(i);
+        }
+        for (int c = 0; c < 30; c++) {
+            for (int what = 0; what < 4; what++) {
+                sum = sum * 31 + x.cell(c, what);
+            }
+        }
+        for (int tap = 0; tap < 12; tap++) {
+            for (int day = 0; day < 20; day++) {
+                for (int what = 0; what < 4; what++) {
+                    sum = sum * 31 + x.flow(tap, day, what);
+                }
+            }
+            sum = sum * 31 + x.off(tap);
+            sum = sum * 31 + x.tire(tap, 60);
+        }
+        for (int t = 0; t < 8; t++) {
+            for (int what = 0; what < 3; what++) {
+                sum = sum * 31 + x.of(t, what);
+            }
+            for (int day = 0; day < 20; day++) {
+                sum = sum * 31 + x.why(0, t, day);
+                sum = sum * 31 + x.whose(t, day, -1);
+                sum = sum * 31 + x.lapsed(t, 90 + day);
+            }
+        }
+        for (int word = 1; word < 6; word++) {
+            sum = sum * 31 + x.force(word, 0, 20);
+        }
+        for (int what = 0; what < 2; what++) {
+            sum = sum * 31 + x.shift(what);
+            sum = sum * 31 + x.cause(0, what);
+        }
+        return sum;
+    }
+
+    private static void change(int i) {
+        switch (i) {
+            case 0: x.under(7, 0, 5); break;
+            case 1: x.under(7, 1, 5); break;
+            case 2: x.under(7, 2, 5); break;
+            case 3: x.under(7, 3, 5); break;
+            case 4: x.tap(0, 9, 0, 0); break;
+            case 5: x.dawn(2); break;
+            case 6: x.shut(0, true); break;
+            case 7: x.scale(0); x.dawn(1); break;
+            case 8: x.pipe(0, 90); x.dawn(1); break;
+            case 9: x.feed(';', 1); break;
+            case 10: x.text(0); break;
+            case 11: x.taker(5, 0, 1, 1, 1); break;
+            case 12: x.sell(1, 0, 4, 1); break;
+            case 13: x.used(0, 4); x.used(1, 2); break;
+            case 14: x.look(0, 2, 9, 9); break;
+            case 15: x.drop(1, 9); break;
+            case 16: x.drop(0, 9); break;
+            case 17: x.shake(2, 9); break;
+            case 18: x.shake(1, 9); break;
+            case 19: x.push(5, 9); break;
+            case 20: x.feed(Due.word(";rank 1 "), 8); x.feed(Due.word("k=1"), 3); x.text(3); break;
+            default: x.tried(0, 0); break;
+        }
+    }
+
+    private static void promise34And35() {
+        x = new HotSprings();
+        due("no image", x.undo(), -3);
+        fill();
+        due("no image", x.undo(), -3);
+        due("image", x.image(), 4);
+        long was = told();
+        due("undo of nothing", x.undo(), 4);
+        due("as it was", told(), was);
+        for (int i = 0; i <= 21; i++) {
+            // An object is good for 512 calls alone, and told() makes many.
+            x = new HotSprings();
+            fill();
+            x.image();
+            change(i);
+            due("undo of change " + i, x.undo(), 4);
+            due("as ever, change " + i, told(), was);
+        }
+        x = new HotSprings();
+        fill();
+        x.image();
+        for (int i = 0; i <= 21; i++) {
+            change(i);
+        }
+        due("undo of all", x.undo(), 4);
+        due("THE TAPE", x.count(6), 6);
+        due("THE IMAGE is still there", x.undo(), 4);
+        due("THE TAPE is as fed", x.text(0), 1);
+        due("it is so", x.force(1, 0, 0), 1);
+        due("SCALE: 820, 636 and 524 were hot enough", x.scale(0), 4);
+        due("a change is in place of one", x.shake(1, 1), 1);
+        due("another", x.shake(2, 1), 2);
+        due("a drop is in place of one", x.drop(0, 1), 1);
+        due("a push", x.push(0, 1), 2);
+        due("a use", x.used(0, 4), 2);
+        due("the other's", x.used(1, 4), 1);
+        due("shut", x.shut(1, true), 1);
+        due("not shut", x.shut(0, true), 0);
+        due("pipe", x.pipe(0, 1), 7);
+    }
+
+    private static void daysAgain() {
+        x = new HotSprings();
+        x.under(0, 1, 1000);
+        x.tap(0, 0, 0, 0);
+        x.dawn(2);
+        x.image();
+        x.tap(0, 29, 0, 0);
+        x.dawn(3);
+        int gave = x.flow(0, 2, 0);
+        x.undo();
+        due("a day that did not go by", x.flow(0, 2, 0), -1);
+        due("a TAP that is not there", x.flow(1, 2, 0), -1);
+        due("went by", x.flow(0, 0, 0), 100);
+        x.under(0, 1, 9000);
+        x.dawn(1);
+        due("another day", x.flow(0, 2, 0), 900);
+        due("that day again", gave < 900 ? 1 : 0, 1);
+        due("made again", x.tap(0, 5, 0, 0), 1);
+        x.dawn(1);
+        due("ahead of the TAP", x.flow(1, 2, 0), -1);
+        due("with the TAP", x.flow(1, 3, 0), 0);
+        due("another image", x.image(), 4);
+        x.dawn(1);
+        due("the later one", x.undo(), 4);
+        due("two TAPS", x.count(0), 2);
+    }
+
+    private static void promise36() {
+        x = new HotSprings();
+        fill();
+        int[] want = {2, 1, 2, 1, 1, 4, 6, 1};
+        for (int i = 0; i < want.length; i++) {
+            due("count(" + i + ")", x.count(i), want[i]);
+        }
+        int water = 0;
+        for (int c = 0; c < 30; c++) {
+            water += x.cell(c, 1);
+        }
+        due("water", x.count(8), water);
+        due("what", x.count(-1), -1);
+        due("what", x.count(9), -1);
+        due("what", x.count(Integer.MAX_VALUE), -1);
+    }
+
+    public static void main(String[] args) {
+        promise34And35();
+        daysAgain();
+        promise36();
+        Due.end("ImageTest");
+    }
+}
