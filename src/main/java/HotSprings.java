@@ -681,7 +681,7 @@ public final class HotSprings {
         final int[] closing = new int[TAPS];
         // GAVE, HOT, COMES, WARM of each TAP on the DAY that went by last.
         final int[] flows = new int[TAPS * FLOWS];
-        final int[] moves = new int[2 * CELLS];
+        final int[] moves = new int[CELLS];
 
         void copyFrom(Ground other) {
             System.arraycopy(other.cells, 0, cells, 0, cells.length);

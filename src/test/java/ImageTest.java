@@ -163,6 +163,37 @@ public final class ImageTest {
         due("two TAPS", x.count(0), 2);
     }
 
+    private static void madeAgain() {
+        x = new HotSprings();
+        x.under(0, 0, 900);
+        x.under(0, 1, 100);
+        x.image();
+        x.tap(1, 0, 30, 1);
+        x.pipe(0, 50);
+        x.shut(0, true);
+        x.taker(0, 0, 1, 0, 0);
+        x.used(0, 0);
+        x.drop(0, 5);
+        x.dawn(1);
+        x.shut(0, false);
+        x.dawn(1);
+        due("served", x.mix(1), 1);
+        x.undo();
+        due("made again", x.tap(1, 0, 30, 1), 0);
+        due("a new PIPE", x.pipe(0, 0), 0);
+        due("a new SCALE", x.scale(0), 0);
+        due("not shut", x.shut(0, false), 0);
+        due("made again", x.taker(0, 0, 1, 0, 0), 0);
+        due("not USED", x.used(0, 0), 1);
+        due("its first drop", x.drop(0, 6), 1);
+        x.undo();
+        x.taker(0, 0, 1, 0, 0);
+        x.dawn(2);
+        x.tap(1, 0, 30, 1);
+        due("a TAP that was not there then", x.mix(1), 0);
+        due("a TAP that was not there then", x.flow(0, 1, 0), -1);
+    }
+
     private static void promise36() {
         x = new HotSprings();
         fill();
@@ -183,6 +214,7 @@ public final class ImageTest {
     public static void main(String[] args) {
         promise34And35();
         daysAgain();
+        madeAgain();
         promise36();
         Due.end("ImageTest");
     }

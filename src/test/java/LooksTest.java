@@ -65,6 +65,11 @@ public final class LooksTest {
         due("farther than 1", x.off(0), 4);
         x.dawn(1);
         due("it has come, and 500 are not too far: gallons are", x.off(0), 5);
+        x = new HotSprings();
+        x.tap(0, 0, 0, 0);
+        x.dawn(1);
+        x.look(0, 0, 1, 0);
+        due("the first look", x.off(0), 1);
         due("tap", x.off(2), -1);
         due("tap", x.off(-1), -1);
     }
@@ -154,7 +159,22 @@ public final class LooksTest {
         x.tap(1, 10, 50, 1);
         x.drop(0, 3);
         causes(0, 128, 1);
-        x.drop(0, 10);
+        // The ninth would be 8.
+        x.drop(0, 8);
+        causes(0, -5, -5);
+        x.drop(0, 11);
+        causes(0, -5, -5);
+        x = new HotSprings();
+        x.tap(1, 0, 8, 1);
+        x.tap(0, 1, 0, 0);
+        x.drop(1, 4);
+        causes(0, 1, 1);
+        x.drop(1, 103);
+        causes(99, 1, 1);
+        x.drop(1, 104);
+        causes(99, -5, -5);
+        x.drop(1, 4);
+        x.drop(0, 1);
         causes(0, -5, -5);
     }
 
@@ -281,6 +301,12 @@ public final class LooksTest {
         x.shake(2, -2);
         shifts("half of -5, cut", 2, 1);
         x = new HotSprings();
+        x.push(7, 9);
+        x.shake(0, 4);
+        shifts("the first CELL", 1, 1);
+        x.shake(0, 9);
+        shifts("the first CELL", -5, -5);
+        x = new HotSprings();
         x.push(0, 50);
         x.push(8, 4);
         x.shake(3, 0);
@@ -392,6 +418,8 @@ public final class LooksTest {
         x.under(0, 0, 400);
         x.tap(1, 0, 20, 1);
         x.taker(0, 0, 2, 100, 0);
+        Due.tape(x, "deep 1");
+        due("the only TAKER", x.tried(0, 0), 0);
         x.taker(1, 0, 1, 100, 0);
         x.taker(2, 0, 1, 100, 0);
         x.dawn(1);

@@ -68,6 +68,15 @@ public final class MixTest {
         taps(20, 300, 20, 500);
         takers(2, 400, 2, 400);
         served("one of each for both", 3);
+        taps(10, 100, 10, 100, 20, 500, 10, 700);
+        takers(2, 601, 2, 600, 1, 500, 1, 100, 1, 100);
+        served("not two of 700", 30);
+        taps(10, 100, 10, 100, 10, 500, 10, 700);
+        takers(3, 434, 3, 433, 1, 100);
+        served("500, 700 and 100 make three times 433", 6);
+        taps(0, 0, 0, 0, 10, 0, 20, 300);
+        takers(2, 300, 1, 0);
+        served("of the fourth two", 3);
         taps();
         takers(1, 0);
         served("no TAP", 0);
@@ -92,7 +101,11 @@ public final class MixTest {
         due("HOUSE", x.mix(0), 2);
         due("day", x.mix(-1), -1);
         due("day", x.mix(2), -1);
-        x.tap(1, 7, 20, 1);
+        x.under(7, 0, 900);
+        x.under(7, 1, 90);
+        x.tap(1, 7, 60, 1);
+        x.dawn(1);
+        due("six tens for three", x.mix(2), 14);
         due("a TAP that was not there", x.mix(0), 2);
     }
 

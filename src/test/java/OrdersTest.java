@@ -163,12 +163,23 @@ public final class OrdersTest {
         fault("rank 7 (k=1))", 12);
     }
 
+    private static void afterFaults() {
+        x = new HotSprings();
+        x.taker(0, 0, 1, 0, 0);
+        for (int i = 0; i < 9; i++) {
+            Due.order(x, "rank 1 n<2&n<2&n<2|n<2&n<2&n<2|n<2&n<2|n<2&n<2&n<2|n<2;x", 0, -10 - 55);
+        }
+        Due.order(x, "rank 4 k=0&n<2;rank 5 k=0&n>1", 0, 0);
+        due("nothing is left of what was no ORDER", x.force(0, 0, 0), 4);
+    }
+
     private static void promise11() {
         words();
         clauses();
         wholeTape();
         conditions();
         opens();
+        afterFaults();
         x = new HotSprings();
         Due.tape(x, "deep 1");
         due("day", x.text(-1), -2);

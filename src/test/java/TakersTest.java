@@ -188,6 +188,7 @@ public final class TakersTest {
         whose(2, -1, 7);
         whose(400, -1, 7);
         whose(400, 6, 0);
+        whose(400, 0, 0);
         x.sell(0, 7, 2, 4);
         whose(10, -1, 3);
         due("taker", x.whose(2, 0, -1), -1);
@@ -196,7 +197,20 @@ public final class TakersTest {
         due("e", x.whose(0, 0, 8), 0);
         due("e ahead of day", x.whose(0, 401, 9), -1);
         due("day", x.whose(0, 401, 0), -2);
+        onDay0();
         due("day", x.whose(0, -1, 0), -2);
+    }
+
+    private static void onDay0() {
+        x = new HotSprings();
+        x.taker(0, 0, 1, 0, 0);
+        x.sell(0, 0, 1, 0);
+        whose(0, -1, 1);
+        x.sell(0, 1, 2, 0);
+        whose(0, -1, 2);
+        x.sell(0, 2, 3, 0);
+        whose(0, -1, 3);
+        whose(0, 2, 2);
     }
 
     private static void promise20() {
