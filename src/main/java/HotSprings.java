@@ -971,7 +971,7 @@ public final class HotSprings {
 
         /** 100 times the ORDER, and the place of its CLAUSE that rules. */
         int ruling(int word, Takers takers, int taker, int day) {
-            int key = Integer.MAX_VALUE;
+            int key = (LAST_DAY + 1) * KEYS;
             for (int i = 0; i < size; i++) {
                 key = keyBelow(key, day);
                 if (key < 0) {
