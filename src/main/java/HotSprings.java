@@ -160,7 +160,7 @@ public final class HotSprings {
         if (!isDay(day)) {
             return BAD;
         }
-        return world.book.number(word, world.takers, taker, day);
+        return world.book.numberBy(world.book.ruling(word, world.takers, taker, day), word);
     }
 
     public int why(int word, int taker, int day) {
@@ -649,7 +649,7 @@ public final class HotSprings {
 
         /** What a word that asks for no TAKER rules. */
         int rules(int word, int day) {
-            return book.number(word, takers, 0, day);
+            return book.numberBy(book.ruling(word, takers, 0, day), word);
         }
 
         boolean mayBe(int kind, int cell, int depth) {
@@ -961,15 +961,15 @@ public final class HotSprings {
             size = Math.max(0, size - 1);
         }
 
-        int number(int word, Takers takers, int taker, int day) {
-            int clause = ruling(word, takers, taker, day);
-            if (clause < 0) {
+        /** The number that a word has by what rules of it. */
+        int numberBy(int ruling, int word) {
+            if (ruling < 0) {
                 return WITHOUT_ORDER[word];
             }
-            return orders[clause / KEYS].number[clause % KEYS];
+            return orders[ruling / KEYS].number[ruling % KEYS];
         }
 
-        /** 100 times the ORDER, and the place of its CLAUSE that rules. */
+        /** 100 times the ORDER, and the place of its CLAUSE that rules; or NOTHING. */
         int ruling(int word, Takers takers, int taker, int day) {
             int key = (LAST_DAY + 1) * KEYS;
             for (int i = 0; i < size; i++) {
@@ -1015,7 +1015,18 @@ public final class HotSprings {
             failed = false;
             order.clear(day);
             for (int i = 0; i < CLAUSES; i++) {
-                readClause();
+                int word = readWord();
+                need(' ');
+                int n = word == SHARE ? readShare() : readNumber();
+                int first = order.size;
+                if (word == RANK) {
+                    need(' ');
+                    readEither(0);
+                }
+                if (failed) {
+                    break;
+                }
+                order.addClause(word, n, first);
                 if (i == CLAUSES - 1 || !take(';')) {
                     break;
                 }
@@ -1023,20 +1034,6 @@ public final class HotSprings {
             int fault = failed || place < tape.size ? place : -1;
             tape.size = 0;
             return fault;
-        }
-
-        private void readClause() {
-            int word = readWord();
-            need(' ');
-            int n = word == SHARE ? readShare() : readNumber();
-            int first = order.size;
-            if (word == RANK) {
-                need(' ');
-                readEither(0);
-            }
-            if (!failed) {
-                order.addClause(word, n, first);
-            }
         }
 
         private int readWord() {
@@ -1347,7 +1344,7 @@ public final class HotSprings {
             for (int taker = 0; taker < size; taker++) {
                 int kind = takers.kind[taker];
                 int less = kind == RIGHT ? 1 : kind == BOUGHT ? 2 : 0;
-                rank[taker] = book.number(RANK, takers, taker, day) - less;
+                rank[taker] = book.numberBy(book.ruling(RANK, takers, taker, day), RANK) - less;
                 insert(takers, taker);
             }
         }
