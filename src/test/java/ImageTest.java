@@ -22,50 +22,10 @@ public final class ImageTest {
         x.sell(0, 0, 3, 2);
         x.used(0, 3);
         x.look(0, 1, 0, 0);
-        x.drop(0, 15);
+        x.drop(0, 10);
         x.push(0, 6);
         x.shake(1, 6);
         Due.tape(x, "deep 1");
-    }
-
-    /** Answers that tell all that there is, each mixed into one number. */
-    private static long told() {
-        long sum = 0;
-        for (int i = 0; i <= 9; i++) {
-            sum = sum * 31 + x.count(i);
-        }
-        for (int c = 0; c < 30; c++) {
-            for (int what = 0; what < 4; what++) {
-                sum = sum * 31 + x.cell(c, what);
-            }
-        }
-        for (int tap = 0; tap < 12; tap++) {
-            for (int day = 0; day < 20; day++) {
-                for (int what = 0; what < 4; what++) {
-                    sum = sum * 31 + x.flow(tap, day, what);
-                }
-            }
-            sum = sum * 31 + x.off(tap);
-            sum = sum * 31 + x.tire(tap, 60);
-        }
-        for (int t = 0; t < 8; t++) {
-            for (int what = 0; what < 3; what++) {
-                sum = sum * 31 + x.of(t, what);
-            }
-            for (int day = 0; day < 20; day++) {
-                sum = sum * 31 + x.why(0, t, day);
-                sum = sum * 31 + x.whose(t, day, -1);
-                sum = sum * 31 + x.lapsed(t, 90 + day);
-            }
-        }
-        for (int word = 1; word < 6; word++) {
-            sum = sum * 31 + x.force(word, 0, 20);
-        }
-        for (int what = 0; what < 2; what++) {
-            sum = sum * 31 + x.shift(what);
-            sum = sum * 31 + x.cause(0, what);
-        }
-        return sum;
     }
 
     private static void change(int i) {
@@ -101,17 +61,17 @@ public final class ImageTest {
         fill();
         due("no image", x.undo(), -3);
         due("image", x.image(), 4);
-        long was = told();
+        long was = Told.by(x);
         due("undo of nothing", x.undo(), 4);
-        due("as it was", told(), was);
+        due("as it was", Told.by(x), was);
         for (int i = 0; i <= 21; i++) {
-            // An object is good for 512 calls alone, and told() makes many.
+            // An object is good for 512 calls alone, and Told makes many.
             x = new HotSprings();
             fill();
             x.image();
             change(i);
             due("undo of change " + i, x.undo(), 4);
-            due("as ever, change " + i, told(), was);
+            due("as ever, change " + i, Told.by(x), was);
         }
         x = new HotSprings();
         fill();
