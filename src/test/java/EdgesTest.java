@@ -310,6 +310,41 @@ public final class EdgesTest {
         due("the last alone holds", x.why(0, 0, 0), 100);
     }
 
+    private static final String[] CUT_SHORT = {"", "r", "ran", "rank", "rank ", "rank 1", "rank 1 ", "rank 1 k", "rank 1 k=",
+        "rank 1 (", "rank 1 (k=1", "rank 1 !", "rank 1 k=1&", "rank 1 k=1|", "d", "dee", "deep", "deep ", "a", "apar",
+        "apart ", "l", "laps", "lapse ", "leas", "least ", "s", "shar", "share "};
+
+    /** An ORDER of one CLAUSE and of so many bytes, 10 at least. */
+    private static String orderOf(int size) {
+        int more = (size - 10) % 4;
+        String[] first = {"rank 1 n>0", "rank 11 n>0", "rank 111 n>0", "rank 111 n>10"};
+        StringBuilder s = new StringBuilder(first[more]);
+        while (s.length() < size) {
+            s.append("&n>0");
+        }
+        return s.toString();
+    }
+
+    private static void endsTooEarly() {
+        for (String part : CUT_SHORT) {
+            x = new HotSprings();
+            Due.order(x, "rank 1 k=1;deep 1", 0, 0);
+            Due.order(x, part, 0, -10 - part.length());
+            String first = orderOf(119 - part.length());
+            due("its bytes", first.length() + 1 + part.length(), 120);
+            Due.order(x, first + ";" + part, 0, -10 - 120);
+            Due.order(x, orderOf(120), 0, 1);
+        }
+        // The bytes of the ORDER ahead would go on well, but they are gone.
+        String word = "deep 123";
+        for (int i = 0; i <= 5; i++) {
+            x = new HotSprings();
+            Due.order(x, word, 0, 0);
+            Due.order(x, word.substring(0, i), 0, -10 - i);
+            due("one ORDER", x.count(1), 1);
+        }
+    }
+
     private static void usesOfEach() {
         x = new HotSprings();
         toDay(200);
@@ -454,6 +489,17 @@ public final class EdgesTest {
         x.taker(0, 0, 3, 500, 0);
         x.dawn(1);
         due("those ahead leave the hot tens", x.mix(0), 7);
+        x = new HotSprings();
+        for (int c = 0; c < 4; c++) {
+            x.under(5 * c, 0, c < 3 ? 800 : 0);
+            x.under(5 * c, 1, 20);
+            x.tap(1, 5 * c, 500, 1);
+        }
+        x.taker(0, 0, 1, 801, 0);
+        x.taker(0, 0, 2, 801, 0);
+        x.taker(0, 0, 1, 800, 0);
+        x.dawn(1);
+        due("n tens and no more, none of them given back", x.mix(0), 4);
     }
 
     private static void sixtyLooks() {
@@ -753,6 +799,7 @@ public final class EdgesTest {
         feeds();
         orders();
         longestOrder();
+        endsTooEarly();
         usesOfEach();
         thirtySales();
         eightTakers();
