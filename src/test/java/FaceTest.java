@@ -64,6 +64,31 @@ public final class FaceTest {
         Due.due(classes + " classes", classes <= 12 ? 1 : 0, 1);
     }
 
+    /** The classes inside, too: no method bears a name of the face's, and what is static is never changed. */
+    private static void inside() {
+        TreeSet<String> names = new TreeSet<>();
+        for (String m : FACE.split(" ")) {
+            names.add(m.substring(0, m.indexOf('(')));
+        }
+        for (Class<?> c : HotSprings.class.getDeclaredClasses()) {
+            for (Method m : c.getDeclaredMethods()) {
+                Due.due(m + " bears a public name", names.contains(m.getName()) ? 1 : 0, 0);
+                Due.due("parameters of " + m, m.getParameterCount() <= 7 ? 1 : 0, 1);
+            }
+            statics(c);
+        }
+        statics(HotSprings.class);
+    }
+
+    private static void statics(Class<?> c) {
+        for (Field f : c.getDeclaredFields()) {
+            if (Modifier.isStatic(f.getModifiers())) {
+                Due.due(f + " is final", Modifier.isFinal(f.getModifiers()) ? 1 : 0, 1);
+                Due.due(f + " is a number or a row of them", f.getType() == int.class || f.getType() == int[].class ? 1 : 0, 1);
+            }
+        }
+    }
+
     private static void words(String file) throws java.io.IOException {
         String source = Files.readString(Path.of(file), StandardCharsets.ISO_8859_1);
         String code = source.replaceAll("(?s)/\\*.*?\\*/", "").replaceAll("//[^\n]*", "").replaceAll("\"[^\"\n]*\"", "\"\"");
@@ -140,6 +165,7 @@ public final class FaceTest {
     public static void main(String[] args) throws Exception {
         face();
         members();
+        inside();
         words(args.length > 0 ? args[0] : "src/main/java/HotSprings.java");
         room();
         Due.end("FaceTest");
